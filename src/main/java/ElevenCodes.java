@@ -865,7 +865,7 @@ public final class ElevenCodes {
             if (at >= length) {
                 return at;
             }
-            char kind = text[at];
+            int kind = text[at];
             at++;
             switch (kind) {
                 case 'y':

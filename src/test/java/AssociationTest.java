@@ -135,6 +135,13 @@ public final class AssociationTest {
         Due.is("0 stays", x.member(0, true), 0);
         Due.is("1 left", x.member(1, true), 1);
         Due.is("2 left", x.member(2, false), 0);
+        ElevenCodes y = association();
+        y.member(3, false);
+        y.member(4, false);
+        y.rule(0, 1);
+        Due.is("put by half of them", y.put(15, 1), 1);
+        Due.is("the first left, too", y.member(0, false), 0);
+        Due.is("one is left", y.count(3), 1);
         Due.is("put item -1", x.put(-1, 0), -2);
         Due.is("put item 17", x.put(17, 0), -2);
         Due.is("put code -1", x.put(0, -1), -2);
@@ -184,6 +191,16 @@ public final class AssociationTest {
         Due.is("no lines", x.best(0, 1, 2), 3);
         Due.is("nothing gained", x.best(1 << 10 | 1 << 15, 3, 0), 0);
         Due.is("hurt as before", x.best(1 << 10 | 1 << 15, 3, 2), 3);
+        // picks and kicks together keep down as much as hacks alone
+        ElevenCodes y = Due.with("n0;n2;n7", "n0;n2");
+        Due.match(y, 1, 2, 17);
+        Due.match(y, 11, 10, 13, 7);
+        Due.is("without", y.best(0, 0, 2), 2);
+        Due.is("kicks alone", y.best(1, 0, 2), 1);
+        Due.is("picks alone", y.best(4, 0, 2), 1);
+        Due.is("both", y.best(1 | 4, 0, 0), 5);
+        Due.is("both are hurt by none", y.best(1 | 4, 0, 2), 0);
+        Due.is("fewer items before less bits", y.best(1 | 4 | 1 << 7, 0, 0), 1 << 7);
         // staying comes before hurt
         x.club(4, 1 << 7);
         x.member(0, true);
@@ -205,5 +222,15 @@ public final class AssociationTest {
         x.club(0, 511);
         x.member(0, true);
         Due.is("all 9 are taken", x.best(511, 0, 0), 511);
+        for (int i = 1; i < 12; i++) {
+            x.club(0, 511);
+            x.member(i, true);
+        }
+        Due.is("all 12 stay", x.best(511, 0, 1), 12);
+        Due.is("12 members", x.count(3), 12);
+        Due.is("12 for it", x.motion(0, 0, 0), 12);
+        Due.is("12 would leave", x.motion(0, 1, 3), 4095);
+        Due.is("all are silent", x.put(0, 1), 0);
+        Due.is("so the law stays", x.law(0), 127);
     }
 }

@@ -125,11 +125,47 @@ public final class CodesTest {
         fault("t123", 3);
         fault("n4;a9;n", 4);
         fault("n4;t0;n", 4);
+        leftoversAndFullTexts();
         ElevenCodes x = new ElevenCodes();
         Due.is("fault -1", x.fault(-1), -2);
         Due.is("fault 11", x.fault(11), -2);
         x.type(3, 'n' + 128);
         Due.is("a high byte is no n", x.fault(3), 0);
+    }
+
+    /** Bytes that were wiped count no more, and there is nothing behind the 80th. */
+    private static void leftoversAndFullTexts() {
+        String[] whole = {"n4;n5", "n45-6", "n45-6", "g8=1", "g8=1", "e12", "a1", "n4"};
+        int[] cut = {3, 4, 3, 3, 2, 1, 1, 1};
+        for (int i = 0; i < whole.length; i++) {
+            ElevenCodes x = Due.with(whole[i]);
+            Due.text(x, 0, whole[i].substring(0, cut[i]));
+            Due.is("cut " + whole[i], x.fault(0), cut[i]);
+        }
+        ElevenCodes y = Due.with("e12");
+        Due.text(y, 0, "e1");
+        Due.is("a number cut", y.item(0, 15), 1);
+        Due.text(y, 0, "n41-3");
+        Due.text(y, 0, "n4");
+        Due.is("cells cut", y.item(0, 4), 0);
+        String[] ends = {"a0;", "a0;n", "a0;n4", "a0;n45", "a0;n45-", "a0;n45-6", "a0;g", "a0;g8", "a0;g8=", "a0;e", "a0;e1"};
+        boolean[] fine = {false, false, true, false, false, true, false, false, false, false, true};
+        for (int i = 0; i < ends.length; i++) {
+            String text = pad(80 - ends[i].length()) + ends[i];
+            Due.is("80 bytes, ends with " + ends[i], Due.with(text).fault(0), fine[i] ? -1 : 80);
+        }
+    }
+
+    /** Parts of just so many bytes (8 and more), each with its mark behind it. */
+    private static String pad(int bytes) {
+        StringBuilder text = new StringBuilder();
+        for (int rest = bytes % 3; rest > 0; rest--) {
+            text.append("e10;");
+        }
+        while (text.length() < bytes) {
+            text.append("a0;");
+        }
+        return text.toString();
     }
 
     private static void items() {
@@ -162,6 +198,12 @@ public final class CodesTest {
             Due.is("why 8 " + cell, x.why(0, 8, cell), -1);
             Due.is("why 5 " + cell, x.why(0, 5, cell), cell == 3 ? 5 : -1);
         }
+        Due.is("why of a new code", x.why(1, 0, 0), -1);
+        Due.text(x, 2, "n0;y00-0");
+        Due.is("why of the first act", x.why(2, 0, 0), 1);
+        Due.is("why of the first act, last cell", x.why(2, 0, 6), 0);
+        x.wipe(2);
+        Due.is("why of a wiped code", x.why(2, 0, 0), -1);
         x.type(0, ';');
         Due.is("why with a fault", x.why(0, 4, 0), -1);
         Due.is("why code -1", x.why(-1, 4, 0), -2);

@@ -44,6 +44,9 @@ public final class CupTest {
         }
         Due.is("draws of some", x.draws(1 | 1 << 5 | 1 << 9 | 1 << 11, 99), 3);
         Due.is("mate of some", x.mate(1 | 1 << 5 | 1 << 9 | 1 << 11, 99, 11), 9);
+        for (int i = 0; i < 12; i++) {
+            Due.is("mates of 12", x.mate(4095, 50, i), i ^ 1);
+        }
         for (int i = 0; i < 11; i++) {
             x.way(i, 11, i == 4 ? 50 : 51);
         }

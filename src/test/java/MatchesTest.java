@@ -15,6 +15,7 @@ public final class MatchesTest {
         turned();
         found();
         fits();
+        fullMatches();
         Due.end();
     }
 
@@ -139,6 +140,9 @@ public final class MatchesTest {
             Due.is("ended points " + code, x.played(0, code, code, 0, 0), points[code]);
             Due.is("ended moments " + code, x.played(0, code, code, 0, 5), moments[code]);
         }
+        ElevenCodes y = Due.with("e2");
+        Due.match(y, 11, 14, 18, 11, 14, 18, 11);
+        Due.is("ended by side 1", y.played(0, 0, 0, 0, 5), 6);
         // a score that leaves the ball to the same side makes the next take empty
         Due.is("moments with empty ones", x.played(0, 4, 4, 0, 5), 6);
         Due.is("let of them", x.played(0, 4, 4, 0, 2), 5);
@@ -247,9 +251,14 @@ public final class MatchesTest {
             }
         }
         Due.is("goes unseen", x.goes(0, 5, 3), 3);
+        Due.match(x, 40, -1, 39, 0);
+        int[] edges = {3, 3, 0, 0};
+        for (int i = 0; i < 4; i++) {
+            Due.is("goes at the edges " + i, x.goes(1, 5, i), edges[i]);
+        }
         Due.is("goes i -1", x.goes(0, 0, -1), -2);
         Due.is("goes i 5", x.goes(0, 0, 5), -2);
-        Due.is("goes match", x.goes(1, 0, 0), -2);
+        Due.is("goes match", x.goes(2, 0, 0), -2);
         Due.is("goes match -1", x.goes(-1, 0, 0), -2);
         Due.is("goes code", x.goes(0, 11, 0), -2);
         Due.is("goes code -1", x.goes(0, -1, 0), -2);
@@ -308,6 +317,16 @@ public final class MatchesTest {
         Due.match(z, 1, 2, 4, 4, 4, 6);
         Due.verdicts(z, 1, 1, 1, 1, 1, 1, 0);
         Due.is("a throw from the last cell", z.found(6, 6), 2);
+        ElevenCodes w = new ElevenCodes();
+        Due.match(w, 1, 20);
+        Due.verdicts(w, 0, 1, 1);
+        Due.is("ahead, a kick", w.found(0, 3), 0);
+        Due.match(w, 1);
+        Due.verdicts(w, 1, 1, 1, 1);
+        Due.is("verdicts behind the moments", w.found(0, 3), 0);
+        Due.match(w, 1, 0);
+        Due.verdicts(w, 2, 1, 1);
+        Due.is("the first act", w.found(0, 3), 1);
         Due.is("found act -1", z.found(-1, 0), -2);
         Due.is("found act 10", z.found(10, 0), -2);
         Due.is("found cell -1", z.found(0, -1), -2);
@@ -351,5 +370,36 @@ public final class MatchesTest {
         Due.is("verdicts sheet -1", x.verdicts(0, -1), -2);
         Due.is("verdicts, lost", x.verdicts(0, 1), -11);
         Due.is("bad before null", x.verdicts(2, 1), -2);
+    }
+
+    /** Twelve matches of forty moments each, with verdicts of all. */
+    private static void fullMatches() {
+        ElevenCodes x = Due.with("n7", "g8=0", "n1");
+        int[] moments = new int[40];
+        int[] told = new int[60];
+        for (int i = 0; i < 40; i++) {
+            moments[i] = new int[] {1, 4, 8, 99}[i % 4];
+        }
+        java.util.Arrays.fill(told, 1);
+        Due.sheet(x, 0, Due.SHORTS, moments);
+        Due.sheet(x, 1, Due.SHORTS, told);
+        for (int i = 0; i < 12; i++) {
+            Due.is("match", x.match(0, 40), i);
+            Due.is("verdicts", x.verdicts(i, 1), 1);
+        }
+        Due.is("all points", x.played(11, 3, 3, 0, 0), 10);
+        Due.is("all moments", x.played(11, 3, 3, 0, 5), 40);
+        Due.is("the last goes", x.goes(11, 3, 39), 3);
+        Due.is("the one before it", x.goes(11, 3, 38), 1);
+        Due.is("turned in all", x.turned(0, 1), 12);
+        Due.is("found in all", x.found(8, 4), 1);
+        Due.is("fits", x.fits(3, 11), 1);
+        Due.is("fitting", x.fitting(), 2047 & ~(1 << 2));
+        Due.is("told", x.count(1), 12);
+        Due.is("hurt in all", x.best(1 << 7, 0, 2), 0);
+        ElevenCodes y = new ElevenCodes();
+        Due.match(y, 1);
+        Due.verdicts(y, 0, 1, 0, 0);
+        Due.is("verdicts behind the moments tell nothing", y.fits(0, 0), 1);
     }
 }

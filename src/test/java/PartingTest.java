@@ -60,7 +60,13 @@ public final class PartingTest {
     }
 
     private static void refusals() {
-        ElevenCodes x = new ElevenCodes();
+        ElevenCodes x = Due.with("", "n1", "n7");
+        Due.is("parting first asked", x.parting(0, 2, 1), 17);
+        Due.is("parting of others", x.parting(0, 1, 1), -1);
+        Due.is("parting as before", x.parting(2, 0, 1), 17);
+        x.wipe(1);
+        x.wipe(2);
+        Due.is("parting of wiped ones", x.parting(2, 0, 1), -1);
         Due.is("parts -1", x.parts(-1, 0), -2);
         Due.is("parts 11", x.parts(11, 0), -2);
         Due.is("parts other", x.parts(0, 11), -2);
@@ -98,6 +104,7 @@ public final class PartingTest {
         // over from the last cell alone: kicked to 5, taken, run to 6
         few("n80-5;n9", 5);
         few("n80-5;n9;n4", 6);
+        few("a2;n80-5;n9;n4", 6);
         // only one cell by a run, and only from the ground
         few("n0;n6;n2;n3", 3);
         few("n0;n6;n2;n3;n8", 4);

@@ -151,6 +151,8 @@ public final class SheetsTest {
         x.member(1, true);
         x.enact(0);
         Due.is("digest", x.digest(), digestOf(x, 2, new int[] {0, 77, 3, 131071}));
+        Due.text(x, 1, "n43-3;k1;n8");
+        Due.is("digest with a parting", x.digest(), digestOf(x, 2, new int[] {0, 77, 3, 131071}));
         long before = x.digest();
         x.lose(0);
         Due.is("a finding is not in it", x.digest(), before);
