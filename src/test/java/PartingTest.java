@@ -5,6 +5,7 @@ public final class PartingTest {
         noPartings();
         refusals();
         fewest();
+        searchesInTurn();
         write();
         Due.end();
     }
@@ -109,6 +110,19 @@ public final class PartingTest {
         few("n0;n6;n2;n3", 3);
         few("n0;n6;n2;n3;n8", 4);
         few("n80-6;n90-5;n0;n6", 5);
+    }
+
+    /** What an earlier search has reached does not count in a later one, where the ball never leaves cell 3. */
+    private static void searchesInTurn() {
+        ElevenCodes x = Due.with("", "n3", "n4;n0;n2;n1", "n4;n0;n2;n1;n8");
+        for (int turn = 0; turn < 2; turn++) {
+            Due.is("fewest", x.fewest(0, 0), 3);
+            Due.is("fewest, stuck", x.fewest(2, 0), -1);
+            Due.is("fewest, stuck, side 1", x.fewest(2, 1), -1);
+            Due.is("parts", x.parts(0, 1), 3);
+            Due.is("parts, stuck", x.parts(2, 3), -1);
+            Due.is("parting, stuck", x.parting(2, 3, 0), -1);
+        }
     }
 
     private static void write() {
