@@ -1285,7 +1285,7 @@ public final class ElevenCodes {
         void part(int[] first, int[] second) {
             length = 0;
             start();
-            for (int head = 0; head < reached; head++) {
+            for (int head = 0; head < BALLS && head < reached; head++) {
                 int from = queue[head];
                 if (depth[from] >= PARTING_MOST) {
                     return;
@@ -1306,7 +1306,7 @@ public final class ElevenCodes {
         /** The fewest moments till this side scores, or none. */
         int momentsToScore(int[] items, int side) {
             start();
-            for (int head = 0; head < reached; head++) {
+            for (int head = 0; head < BALLS && head < reached; head++) {
                 int from = queue[head];
                 if (depth[from] >= FEWEST_MOST) {
                     return NONE;
