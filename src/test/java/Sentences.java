@@ -1,17 +1,18 @@
 import java.io.IOException;
 import java.nio.file.Files;
 import java.nio.file.Path;
-import java.util.ArrayList;
-import java.util.List;
+import java.util.LinkedHashSet;
+import java.util.Set;
 
 /** The sentences of the document that are being tested, each with the promise that it belongs to. */
 final class Sentences {
     static final int PROMISES = 43;
     private static final Path DOCUMENT = Path.of("../shared/DOC.md");
 
-    private static final List<String> TOLD = new ArrayList<>();
+    private static final Set<String> TOLD = new LinkedHashSet<>();
     private static final int[] ANSWERS_OF = new int[PROMISES + 1];
     private static final String TEXT = read();
+    private static String sentenceNow = "no sentence";
     private static int promise = 0;
     private static int answersOfSentence = 0;
 
@@ -23,7 +24,8 @@ final class Sentences {
         endSentence();
         promise = ofPromise;
         answersOfSentence = 0;
-        TOLD.add("promise " + ofPromise + " \"" + sentence + "\"");
+        sentenceNow = "promise " + ofPromise + " \"" + sentence + "\"";
+        TOLD.add(sentenceNow);
         if (!TEXT.isEmpty()) {
             String plain = plain(sentence);
             Due.holds(now() + " stands in the document",
@@ -40,7 +42,7 @@ final class Sentences {
     }
 
     static String now() {
-        return TOLD.isEmpty() ? "no sentence" : TOLD.get(TOLD.size() - 1);
+        return sentenceNow;
     }
 
     /** Each promise has to have its answers, and each sentence, too. */
