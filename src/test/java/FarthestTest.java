@@ -23,7 +23,8 @@ public final class FarthestTest {
 
     public static void main(String[] args) {
         for (int scoring = 1; scoring < 8; scoring++) {
-            Due.holds("no first score is farther than 18 moments, " + scoring, !new FarthestTest(scoring).has(FARTHEST + 1));
+            Due.holds("no first score is farther than 18 moments, " + scoring,
+                !new FarthestTest(scoring).has(FARTHEST + 1));
         }
         Due.holds("a first score in 18 moments", new FarthestTest(UNDER_ALONE).has(FARTHEST));
         besideTheProgram();
@@ -127,7 +128,8 @@ public final class FarthestTest {
 
     private static String text(Random random, int scoring) {
         StringBuilder text = new StringBuilder();
-        text.append("g4=").append(scoring & 1).append(";g8=").append(scoring >> 1 & 1).append(";g9=").append(scoring >> 2);
+        text.append("g4=").append(scoring & 1).append(";g8=").append(scoring >> 1 & 1)
+            .append(";g9=").append(scoring >> 2);
         while (text.length() <= 74) {
             int from = random.nextInt(7);
             text.append(random.nextInt(3) > 0 ? ";n" : ";y").append(random.nextInt(10));

@@ -1,6 +1,6 @@
-import java.io.ByteArrayOutputStream;
 import java.io.IOException;
 import java.io.UncheckedIOException;
+import java.lang.reflect.Method;
 import java.net.URL;
 import java.net.URLClassLoader;
 import java.nio.charset.StandardCharsets;
@@ -15,7 +15,6 @@ import java.util.regex.Matcher;
 import java.util.regex.Pattern;
 import java.util.stream.Collectors;
 import java.util.stream.Stream;
-import javax.tools.ToolProvider;
 
 /**
  * What README.md shows: its Java blocks compile, each call in them has the answer that stands behind it,
@@ -27,7 +26,8 @@ public final class ReadmeTest {
     private static final String BLOCK = "```java";
     private static final String BLOCK_END = "```";
     private static final Pattern ANY_CALL = Pattern.compile("(\\bx|ElevenCodes\\(\\))\\s*\\.\\s*(\\w+)\\s*\\(");
-    private static final Pattern CALL = Pattern.compile("\\s*((?:x|new ElevenCodes\\(\\))\\.\\w+\\(.*\\));\\s*// ([^:]+)(: .+)?");
+    private static final Pattern CALL =
+        Pattern.compile("\\s*((?:x|new ElevenCodes\\(\\))\\.\\w+\\(.*\\));\\s*// ([^:]+)(: .+)?");
     private static final Pattern REFUSAL = Pattern.compile("\\| (-\\d+) \\| ([A-Z]+)(?:, finding (\\d))? \\| .*");
     private static final Pattern TEST = Pattern.compile("\\| (\\w+Test) \\| .*");
 
@@ -91,10 +91,12 @@ public final class ReadmeTest {
     private static void run(Path made, String source) throws Exception {
         Path file = made.resolve("ReadmeBlocks.java");
         Files.writeString(file, source);
-        ByteArrayOutputStream said = new ByteArrayOutputStream();
-        int failed = ToolProvider.getSystemJavaCompiler().run(null, said, said, "-cp",
-            System.getProperty("java.class.path"), "-d", made.toString(), file.toString());
-        Due.is("compiling README.md: " + said.toString(StandardCharsets.UTF_8), failed, 0);
+        // The same javac that .ci/run calls, as a Java without a compiler inside may stand beside it.
+        Process javac = new ProcessBuilder("javac", "-cp", System.getProperty("java.class.path"), "-d", made.toString(),
+            file.toString()).redirectErrorStream(true).start();
+        String said = new String(javac.getInputStream().readAllBytes(), StandardCharsets.UTF_8);
+        int failed = javac.waitFor();
+        Due.is("compiling README.md: " + said, failed, 0);
         if (failed != 0) {
             return;
         }
@@ -130,7 +132,7 @@ public final class ReadmeTest {
             }
         }
         Set<String> face = new TreeSet<>();
-        for (java.lang.reflect.Method m : ElevenCodes.class.getMethods()) {
+        for (Method m : ElevenCodes.class.getMethods()) {
             if (m.getDeclaringClass() == ElevenCodes.class) {
                 face.add(m.getName());
             }
